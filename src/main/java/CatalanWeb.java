@@ -490,7 +490,7 @@ public final class CatalanWeb {
 
         private void insert(int low, int high) {
             int at = diagonals;
-            while (at > 0 && (lows[at - 1] > low || lows[at - 1] == low && highs[at - 1] > high)) {
+            while (at > 0 && comesAfter(at - 1, low, high)) {
                 lows[at] = lows[at - 1];
                 highs[at] = highs[at - 1];
                 at--;
@@ -498,6 +498,10 @@ public final class CatalanWeb {
             lows[at] = low;
             highs[at] = high;
             diagonals++;
+        }
+
+        private boolean comesAfter(int d, int low, int high) {
+            return lows[d] > low || (lows[d] == low && highs[d] > high);
         }
 
         /**
@@ -553,7 +557,7 @@ public final class CatalanWeb {
         private boolean joined(int a, int b) {
             int low = Math.min(a, b);
             int high = Math.max(a, b);
-            if (high - low == 1 || low == 0 && high == lastCorner()) {
+            if (high - low == 1 || (low == 0 && high == lastCorner())) {
                 return true;
             }
             for (int d = 0; d < diagonals; d++) {
@@ -706,7 +710,7 @@ public final class CatalanWeb {
             steps[from] = 0;
             queue[0] = from;
             int found = 1;
-            for (int next = 0; next < found && steps[to] == NONE; next++) {
+            for (int next = 0; next < words && next < found && steps[to] == NONE; next++) {
                 found = findNeighbours(queue[next], found);
             }
             return steps[to];

@@ -473,8 +473,8 @@ public final class CatalanWeb {
 
         /**
          * Each diagonal is the side on which the binary tree of a 1 stands, the first 1 left out,
-         * which stands for the whole tree. The corner between two triangles is the 0 of a pair, so
-         * that corners are counted by the 0s in front of them.
+         * which stands for the whole tree. The middle corner of its triangle is the 0 of its pair,
+         * so that corners are counted by the 0s in front of them.
          */
         void draw(Word word) {
             diagonals = 0;

@@ -10,7 +10,7 @@ public final class FamiliesTest {
 
     public static void main(String[] args) {
         for (int n = 1; n <= 9; n++) {
-            Oracle oracle = new Oracle(n);
+            Oracle oracle = Standing.oracle(n);
             for (int rank = 0; rank < oracle.words.size(); rank++) {
                 showAndTakeBack(oracle, rank);
             }
@@ -20,7 +20,7 @@ public final class FamiliesTest {
             noFamilies(n);
         }
         for (int n = 1; n <= 3; n++) {
-            allNotes(new Oracle(n));
+            allNotes(Standing.oracle(n));
         }
         written();
         Checks.end();
@@ -55,22 +55,8 @@ public final class FamiliesTest {
         return all;
     }
 
-    /** Takes what stands there, and compares answer, word and note with what is due. */
     private static void takeAnything(Oracle oracle, int family, List<Integer> numbers) {
-        int before = Oracle.WORDS[oracle.n] / 3;
-        CatalanWeb web = Checks.web(oracle.n, before);
-        Checks.putAll(web, numbers);
-        Integer want = oracle.rankOf(family, numbers);
-        String what = "size " + oracle.n + ", take(" + family + ") of " + numbers;
-        if (want != null) {
-            Checks.due(what, web.take(family), want);
-        } else {
-            Checks.illegalState(what, () -> web.take(family));
-        }
-        Checks.due(what + ", rank()", web.rank(), want != null ? want : before);
-        Checks.due(what + ", note", Checks.noteOf(web, numbers.size()), numbers);
-        web.show(0);
-        Checks.due(what + ", word", Checks.noteOf(web, 2 * oracle.n), oracle.thing(0, want != null ? want : before));
+        Standing.on(oracle.n, Oracle.WORDS[oracle.n] / 3).withNote(numbers).takes(family);
     }
 
     private static void spoilt(Oracle oracle, Random random) {
@@ -91,15 +77,15 @@ public final class FamiliesTest {
     /** Diagonals in another order, or with the greater corner in front, are not the counterpart. */
     private static void reordered(Oracle oracle) {
         for (int rank = 0; rank < oracle.words.size(); rank += 1 + oracle.words.size() / 100) {
-            List<Integer> diagonals = oracle.thing(3, rank);
+            List<Integer> diagonals = oracle.thing(Oracle.TRIANGULATION, rank);
             for (int d = 0; d < oracle.n - 1; d++) {
                 List<Integer> numbers = new ArrayList<>(diagonals);
                 Collections.swap(numbers, 2 * d, 2 * d + 1);
-                takeAnything(oracle, 3, numbers);
+                takeAnything(oracle, Oracle.TRIANGULATION, numbers);
                 numbers = new ArrayList<>(diagonals);
                 Collections.swap(numbers, 0, 2 * d);
                 Collections.swap(numbers, 1, 2 * d + 1);
-                takeAnything(oracle, 3, numbers);
+                takeAnything(oracle, Oracle.TRIANGULATION, numbers);
             }
         }
     }
@@ -107,7 +93,7 @@ public final class FamiliesTest {
     /** A thing of another size is taken only if its beginning is one of the present size. */
     private static void otherSizes(Oracle oracle) {
         for (int other = 1; other <= 6; other++) {
-            Oracle others = new Oracle(other);
+            Oracle others = Standing.oracle(other);
             for (int family = 0; family < Oracle.FAMILIES; family++) {
                 for (int rank = 0; rank < others.words.size(); rank++) {
                     List<Integer> all = new ArrayList<>(others.thing(family, rank));

@@ -6,7 +6,7 @@ public final class FlipsTest {
 
     public static void main(String[] args) {
         for (int n = 1; n <= 6; n++) {
-            distances(new Oracle(n));
+            distances(Standing.oracle(n));
             noRanks(n);
         }
         for (int n = 7; n <= 9; n++) {

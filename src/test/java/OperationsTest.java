@@ -5,7 +5,7 @@ import java.util.List;
 public final class OperationsTest {
     public static void main(String[] args) {
         for (int n = 1; n <= 9; n++) {
-            Oracle oracle = new Oracle(n);
+            Oracle oracle = Standing.oracle(n);
             for (int rank = 0; rank < oracle.words.size(); rank++) {
                 operations(oracle, rank);
                 flips(oracle, rank);

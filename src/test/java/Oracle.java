@@ -10,6 +10,12 @@ import java.util.TreeSet;
  * sharing nothing with the program: recursion over 1 a 0 b, and lookup among all words.
  */
 final class Oracle {
+    static final int BRACKETS = 0;
+    static final int BINARY_TREE = 1;
+    static final int PLANE_TREE = 2;
+    static final int TRIANGULATION = 3;
+    static final int PARTITION = 4;
+    static final int PERMUTATION = 5;
     static final int FAMILIES = 6;
     static final int[] WORDS = {1, 1, 2, 5, 14, 42, 132, 429, 1430, 4862};
 
@@ -33,7 +39,7 @@ final class Oracle {
         }
         for (int rank = 0; rank < words.size(); rank++) {
             for (int d = 0; d < n - 1; d++) {
-                sharing.computeIfAbsent(without(thing(3, rank), d), k -> new ArrayList<>()).add(rank);
+                sharing.computeIfAbsent(without(thing(TRIANGULATION, rank), d), k -> new ArrayList<>()).add(rank);
             }
         }
     }
@@ -61,11 +67,11 @@ final class Oracle {
 
     private List<Integer> counterpart(int family, String w) {
         switch (family) {
-            case 0: return digits(w);
-            case 1: return binaryTree(w);
-            case 2: return planeTree(w);
-            case 3: return triangulation(w);
-            case 4: return partition(w);
+            case BRACKETS: return digits(w);
+            case BINARY_TREE: return binaryTree(w);
+            case PLANE_TREE: return planeTree(w);
+            case TRIANGULATION: return triangulation(w);
+            case PARTITION: return partition(w);
             default: return permutation(w);
         }
     }
@@ -205,7 +211,7 @@ final class Oracle {
 
     int turn(int rank) {
         TreeSet<Integer> turned = new TreeSet<>();
-        List<Integer> now = thing(3, rank);
+        List<Integer> now = thing(TRIANGULATION, rank);
         for (int at = 0; at < now.size(); at += 2) {
             int i = (now.get(at) + 1) % (n + 2);
             int j = (now.get(at + 1) + 1) % (n + 2);
@@ -216,11 +222,11 @@ final class Oracle {
             numbers.add(side / 100);
             numbers.add(side % 100);
         }
-        return rankOf(3, numbers);
+        return rankOf(TRIANGULATION, numbers);
     }
 
     int complement(int rank) {
-        List<Integer> least = thing(4, rank);
+        List<Integer> least = thing(PARTITION, rank);
         int[] s = new int[n + 1];
         for (int x = 1; x <= n; x++) {
             s[x] = least.get(x - 1);
@@ -245,12 +251,12 @@ final class Oracle {
             } while (reached.add(z));
             numbers.add(reached.first());
         }
-        return rankOf(4, numbers);
+        return rankOf(PARTITION, numbers);
     }
 
     /** The only other triangulation that has all diagonals but the d-th. */
     int flip(int rank, int d) {
-        for (int other : sharing.get(without(thing(3, rank), d))) {
+        for (int other : sharing.get(without(thing(TRIANGULATION, rank), d))) {
             if (other != rank) {
                 return other;
             }

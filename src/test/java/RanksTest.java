@@ -6,7 +6,7 @@ public final class RanksTest {
         newObject();
         for (int n = 1; n <= 9; n++) {
             sizes(n);
-            ranks(new Oracle(n));
+            ranks(Standing.oracle(n));
             noRanks(n);
         }
         noSizes();

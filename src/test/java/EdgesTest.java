@@ -4,7 +4,7 @@ import java.util.List;
 
 /**
  * The sentences that name a least, greatest, empty or full case, or one at which something wraps
- * around, and refuse nothing: each has a method here, with what is due worked out by hand.
+ * around: each has a method here, with what is due worked out by hand.
  */
 public final class EdgesTest {
     private static final int[][] LENGTHS = {
@@ -15,6 +15,7 @@ public final class EdgesTest {
     public static void main(String[] args) {
         newNote();
         newWord();
+        newRefuses();
         for (int n = 1; n <= 9; n++) {
             lengths(n);
             otherNumbersStay(n);
@@ -68,12 +69,23 @@ public final class EdgesTest {
         Checks.due("new: flips(0)", web.flips(0), 0);
         web.unrank(0);
         Checks.due("new: rank() after unrank(0)", web.rank(), 0);
-        Checks.illegalArgument("new: unrank(1)", () -> new CatalanWeb().unrank(1));
-        Checks.illegalArgument("new: flips(1)", () -> new CatalanWeb().flips(1));
-        Checks.outOfBounds("new: flip(0)", () -> new CatalanWeb().flip(0));
-        Checks.illegalState("new: take(0) of the empty note", () -> new CatalanWeb().take(0));
         Checks.due("new: take(3) of the empty note", new CatalanWeb().take(3), 0);
         Checks.due("new: size(1)", new CatalanWeb().size(1), 1);
+    }
+
+    /** Promise 1: what there is none of at size 1, on an object on which no size has been set. */
+    private static void newRefuses() {
+        CatalanWeb web = new CatalanWeb();
+        Checks.illegalArgument("new: unrank(1)", () -> web.unrank(1));
+        Checks.illegalArgument("new: unrank(-1)", () -> web.unrank(-1));
+        Checks.illegalArgument("new: flips(1)", () -> web.flips(1));
+        Checks.illegalArgument("new: flips(-1)", () -> web.flips(-1));
+        Checks.outOfBounds("new: flip(0)", () -> web.flip(0));
+        Checks.outOfBounds("new: flip(-1)", () -> web.flip(-1));
+        for (int family : new int[] {0, 1, 2, 4, 5}) {
+            Checks.illegalState("new: take(" + family + ") of the empty note", () -> web.take(family));
+        }
+        new Standing(1, 0, Collections.nCopies(20, 0)).dueOn("new: refused calls", web);
     }
 
     /** "(2n numbers)", "(n + 1)", "(2n - 2)", "(n)": show answers how many. */

@@ -24,6 +24,7 @@ final class Oracle {
     private final List<List<List<Integer>>> things = new ArrayList<>();
     private final List<Map<List<Integer>, Integer>> ranks = new ArrayList<>();
     private final Map<List<Integer>, List<Integer>> sharing = new HashMap<>();
+    private int[][] leastFlips = null;
 
     Oracle(int n) {
         this.n = n;
@@ -42,6 +43,19 @@ final class Oracle {
                 sharing.computeIfAbsent(without(thing(TRIANGULATION, rank), d), k -> new ArrayList<>()).add(rank);
             }
         }
+    }
+
+    /** How many rows of so many 1 and 0 there are in which no beginning has more 0 than 1. */
+    static long rows(int up, int down) {
+        return down > up ? 0 : choose(up + down, down) - choose(up + down, down - 1);
+    }
+
+    private static long choose(int n, int k) {
+        long ways = k < 0 ? 0 : 1;
+        for (int i = 1; i <= k; i++) {
+            ways = ways * (n - k + i) / i;
+        }
+        return ways;
     }
 
     private void addWords(String begun, int ones, int zeros) {
@@ -271,8 +285,16 @@ final class Oracle {
         return left;
     }
 
-    /** The least numbers of flips between all words, by shortening ways over every word in between. */
+    /** The least numbers of flips between all words; kept, because they are dear to find. */
     int[][] flips() {
+        if (leastFlips == null) {
+            leastFlips = shortestWays();
+        }
+        return leastFlips;
+    }
+
+    /** By shortening ways over every word in between. */
+    private int[][] shortestWays() {
         int count = words.size();
         int[][] ways = new int[count][count];
         for (int from = 0; from < count; from++) {
